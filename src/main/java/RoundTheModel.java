@@ -102,7 +102,7 @@ public final class RoundTheModel {
     }
 
     private int toldSeen(int of, int what) {
-        look(now, of);
+        sight.see(now, of, texts);
         int kind = now.kind[of];
         switch (what) {
             case 10:
@@ -112,7 +112,7 @@ public final class RoundTheModel {
             case 12:
                 return sight.minding(kind);
             case 13:
-                return sight.pleasedBy(kind);
+                return pleasedBy(now, of);
             default:
                 return sight.names[NEAR];
         }
@@ -401,7 +401,7 @@ public final class RoundTheModel {
     }
 
     private int chalkSum(int seed, int n) {
-        think(0, 0, 0);
+        beginThought();
         int z = seed;
         for (int i = 0; i < n; i++) {
             z = z * 1103515245 + 12345;
@@ -605,18 +605,10 @@ public final class RoundTheModel {
         return part == 0 ? above / common : below / common;
     }
 
-    /** What one sees and hears told, by the ring's own rule. */
-    private void look(Ring ring, int who) {
-        sight.see(ring, who);
-        int rule = ring.rule;
-        if (rule >= 0 && rule < textCount) {
-            sight.hear(texts[rule]);
-        }
-    }
-
     private int pleasedBy(Ring ring, int who) {
-        look(ring, who);
-        return sight.pleasedBy(ring.kind[who]);
+        sight.see(ring, who, texts);
+        int kind = ring.kind[who];
+        return sight.view(kind) + sight.warmth(kind) - sight.minding(kind);
     }
 
     private int wholeOf(Ring ring) {
@@ -635,10 +627,14 @@ public final class RoundTheModel {
         ring.move(turn, step);
     }
 
-    /** n POSES in thought; the thought's PLEASED then tells what these alone brought. */
-    private void think(int n, int turn, int step) {
+    /** The thought's PLEASED begins at 0, so that it tells what the POSES there alone brought. */
+    private void beginThought() {
         thought.take(now);
         Arrays.fill(thought.pleased, 0);
+    }
+
+    private void think(int n, int turn, int step) {
+        beginThought();
         for (int i = 0; i < n; i++) {
             pass(thought, turn, step);
         }
@@ -825,7 +821,8 @@ public final class RoundTheModel {
         private int warms = 0;
         private int minds = 0;
 
-        void see(Ring ring, int who) {
+        /** Turns to one painter, by the ring's own rule. */
+        void see(Ring ring, int who, Text[] texts) {
             int at = ring.easel[who];
             names[SIDE] = ring.sideOf(who);
             names[LAMP] = Ring.awayOf(at, ring.lamp);
@@ -833,19 +830,12 @@ public final class RoundTheModel {
             names[NUMBER] = ring.number[who];
             names[POSE] = ring.pose;
             names[NEAR] = ring.nearOf(who);
-        }
-
-        void hear(Text text) {
-            if (text == null) {
-                return;
+            Text text = ring.rule >= 0 && ring.rule < texts.length ? texts[ring.rule] : null;
+            if (text != null) {
+                views = within(0, text.tell(VIEWS, names, stack), MOST_TOLD);
+                warms = within(-MOST_TOLD, text.tell(WARMS, names, stack), MOST_TOLD);
+                minds = within(-MOST_TOLD, text.tell(MINDS, names, stack), MOST_TOLD);
             }
-            views = within(0, text.tell(VIEWS, names, stack), MOST_TOLD);
-            warms = within(-MOST_TOLD, text.tell(WARMS, names, stack), MOST_TOLD);
-            minds = within(-MOST_TOLD, text.tell(MINDS, names, stack), MOST_TOLD);
-        }
-
-        int pleasedBy(int kind) {
-            return view(kind) + warmth(kind) - minding(kind);
         }
 
         int view(int kind) {
@@ -1002,7 +992,7 @@ public final class RoundTheModel {
                     }
                 } else if (c == NOT || c == MINUS) {
                     if (top >= 1) {
-                        stack[top - 1] = c == NOT ? truth(stack[top - 1] == 0) : -stack[top - 1];
+                        stack[top - 1] = turned(c, stack[top - 1]);
                     }
                 } else if (top >= 2) {
                     top--;
@@ -1012,16 +1002,23 @@ public final class RoundTheModel {
             return top >= 1 ? stack[top - 1] : 0;
         }
 
+        private static int turned(int sign, int a) {
+            if (sign == MINUS) {
+                return -a;
+            }
+            return a == 0 ? 1 : 0;
+        }
+
         private static int joined(int sign, int a, int b) {
             switch (sign) {
                 case OR:
-                    return truth(a != 0 || b != 0);
+                    return a != 0 || b != 0 ? 1 : 0;
                 case AND:
-                    return truth(a != 0 && b != 0);
+                    return a != 0 && b != 0 ? 1 : 0;
                 case BELOW:
-                    return truth(a < b);
+                    return a < b ? 1 : 0;
                 case LIKE:
-                    return truth(a == b);
+                    return a == b ? 1 : 0;
                 case PLUS:
                     return a + b;
                 case LESS_BY:
@@ -1029,10 +1026,6 @@ public final class RoundTheModel {
                 default:
                     return a * b;
             }
-        }
-
-        private static int truth(boolean is) {
-            return is ? 1 : 0;
         }
     }
 
@@ -1067,30 +1060,24 @@ public final class RoundTheModel {
             fault = NONE;
             int[] ends = new int[PARTS];
             next();
-            for (int part = 0; part < PARTS && fault == NONE; part++) {
-                readPart(KEY_VIEWS + part);
+            boolean fine = true;
+            for (int part = 0; part < PARTS && fine; part++) {
+                fine = expect(KEY_VIEWS + part) && readEither(0) && expect(';');
                 ends[part] = codeSize;
             }
-            expect(END);
+            fine = fine && expect(END);
             size = 0;
-            return fault == NONE ? new Text(Arrays.copyOf(code, codeSize), ends) : null;
+            return fine ? new Text(Arrays.copyOf(code, codeSize), ends) : null;
         }
 
-        private void readPart(int key) {
-            if (expect(key) && readEither(0)) {
-                expect(';');
-            }
-        }
-
+        /** Whoever hears false reads no further, so that this is the first fault. */
         private boolean fail() {
-            if (fault == NONE) {
-                fault = tokenAt;
-            }
+            fault = tokenAt;
             return false;
         }
 
         private boolean expect(int due) {
-            if (fault != NONE || token != due) {
+            if (token != due) {
                 return fail();
             }
             next();
@@ -1213,62 +1200,33 @@ public final class RoundTheModel {
             for (int i = 0; i < TAPE && at < size && isLetter(tape[at]); i++) {
                 at++;
             }
-            token = keyHere();
-            if (token == WRONG) {
-                int name = nameHere();
-                token = name == NONE ? WRONG : NAME;
-                value = -1 - name;
-            }
+            token = WRONG;
+            mayBe("views", KEY_VIEWS, 0);
+            mayBe("warms", KEY_WARMS, 0);
+            mayBe("minds", KEY_MINDS, 0);
+            mayBe("or", KEY_OR, 0);
+            mayBe("and", KEY_AND, 0);
+            mayBe("not", KEY_NOT, 0);
+            mayBe("side", NAME, -1 - SIDE);
+            mayBe("lamp", NAME, -1 - LAMP);
+            mayBe("stove", NAME, -1 - STOVE);
+            mayBe("number", NAME, -1 - NUMBER);
+            mayBe("pose", NAME, -1 - POSE);
+            mayBe("near", NAME, -1 - NEAR);
         }
 
-        private int keyHere() {
-            if (isWord("views")) {
-                return KEY_VIEWS;
-            }
-            if (isWord("warms")) {
-                return KEY_WARMS;
-            }
-            if (isWord("minds")) {
-                return KEY_MINDS;
-            }
-            if (isWord("or")) {
-                return KEY_OR;
-            }
-            if (isWord("and")) {
-                return KEY_AND;
-            }
-            return isWord("not") ? KEY_NOT : WRONG;
-        }
-
-        private int nameHere() {
-            if (isWord("side")) {
-                return SIDE;
-            }
-            if (isWord("lamp")) {
-                return LAMP;
-            }
-            if (isWord("stove")) {
-                return STOVE;
-            }
-            if (isWord("number")) {
-                return NUMBER;
-            }
-            if (isWord("pose")) {
-                return POSE;
-            }
-            return isWord("near") ? NEAR : NONE;
-        }
-
-        private boolean isWord(String word) {
-            if (at - tokenAt != word.length()) {
-                return false;
-            }
-            for (int i = 0; i < word.length(); i++) {
-                if (tape[tokenAt + i] != word.charAt(i)) {
-                    return false;
+        /** The letters from tokenAt to at are a token with a value, if they are the word. */
+        private void mayBe(String word, int is, int worth) {
+            int alike = 0;
+            for (int i = 0; i < word.length() && tokenAt + i < at; i++) {
+                if (tape[tokenAt + i] == word.charAt(i)) {
+                    alike++;
                 }
             }
-            return true;
+            if (alike == word.length() && at - tokenAt == alike) {
+                token = is;
+                value = worth;
+            }
         }
 
         private static boolean isLetter(int b) {

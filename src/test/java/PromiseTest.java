@@ -14,6 +14,7 @@ public final class PromiseTest {
     feed();
     text();
     textValues();
+    textsAreApart();
     faults();
     openOnes();
     force();
@@ -86,11 +87,13 @@ public final class PromiseTest {
     x.painter(1, 3, 2);
     x.painter(0, 0, 4);
     due.is("set NUMBER", x.set(4, 0, 9), 3);
+    due.is("set NUMBER 0", x.set(4, 1, 0), 0);
     due.is("set NUMBER above", x.set(4, 0, 10), -2);
     due.is("set NUMBER below", x.set(4, 0, -1), -2);
     due.is("set NUMBER of none such", x.set(4, 2, 1), -2);
     due.is("set NUMBER of -1", x.set(4, -1, 1), -2);
-    due.is("set EASEL free", x.set(5, 0, 10), 2);
+    due.is("set EASEL 0", x.set(5, 0, 0), 2);
+    due.is("set EASEL free", x.set(5, 0, 10), 0);
     due.is("set EASEL own", x.set(5, 0, 10), 10);
     due.is("set EASEL of another", x.set(5, 0, 4), -2);
     due.is("set EASEL 11", x.set(5, 0, 11), -2);
@@ -315,8 +318,27 @@ public final class PromiseTest {
     // 65536 * 65536 wraps to 0
     value("(4096*16)*(4096*16)", 0);
     value("(4096*16)*(4096*8)-1 < 0", 0);
+    value("-1 and 0-1", 1);
+    value("1 and 1", 1);
+    value("1 or 1", 1);
+    // as many operands wait as can, and the innermost settles it
+    String level = "0 or 1 and 1<1+1*(";
+    value(level.repeat(5) + "0 or 1 and 1<1+1*1" + ")".repeat(5), 1);
+    value(level.repeat(5) + "0 or 1 and 1<1+1*0" + ")".repeat(5), 0);
     value("\n side\n\n", 10);
     value("side*2-lamp*stove+near", 9);
+  }
+
+  /** Five long texts on one object, each as it was read. */
+  private static void textsAreApart() {
+    RoundTheModel x = new RoundTheModel();
+    x.painter(0, 0, 0);
+    for (int i = 1; i < 6; i++)
+      due.is("a long text", Due.read(x, "views " + "1+".repeat(39) + i + ";warms " + "1+".repeat(20) + i + ";minds " + i + ";"), i);
+    for (int i = 5; i > 0; i--) {
+      x.force(i);
+      seen(x, 0, 39 + i, 20 + i, i);
+    }
   }
 
   private static void fault(String text, int place) {
@@ -344,6 +366,12 @@ public final class PromiseTest {
     fault("views sides;", 6);
     fault("views sid;", 6);
     fault("views Side;", 6);
+    fault("views hide;", 6);
+    fault("views sidez;", 6);
+    fault("views 1 nor 1;", 8);
+    fault("piews 1;", 0);
+    fault("views 1", 7);
+    fault("views", 5);
     fault("views 1\t;", 7);
     fault("views views;", 6);
     fault("views or 1;", 6);
@@ -438,13 +466,21 @@ public final class PromiseTest {
     due.is("EASEL", x.told(0, 5), 4);
     due.is("HAD", x.told(0, 7), 1 << 9 | 2);
     due.is("PLEASED", x.told(0, 8), 16);
+    x.set(0, 0, 0);
+    due.is("pose(1000)", x.pose(1000), 6 + 4 + 1);
+    due.is("FACE", x.told(0, 0), 10);
+    due.is("EASEL", x.told(0, 5), 4);
+    x.pose(10);
+    due.is("FACE", x.told(0, 0), 10);
+    due.is("EASEL", x.told(0, 5), 3);
     int[] wrong = {-1, 11, 99, 111, 1011, 1100, -100, Integer.MIN_VALUE, Integer.MAX_VALUE};
     for (int w : wrong) due.is("pose(" + w + ")", x.pose(w), NOPE);
     x.set(3, 0, 999);
     due.is("pose at 999", x.pose(0), NOPE);
-    due.is("nothing changed", x.told(0, 8), 16);
+    // 16, and 6 + 4, and 5 + 4
+    due.is("nothing changed", x.told(0, 8), 35);
     x.set(3, 0, 998);
-    due.is("pose at 998", x.pose(0), 13 + 1);
+    due.is("pose at 998: SIDE 4", x.pose(0), 6 + 3 + 1);
     due.is("POSE", x.count(1), 999);
   }
 
@@ -509,6 +545,7 @@ public final class PromiseTest {
   // Promise 10
   private static void ring() {
     RoundTheModel x = new RoundTheModel();
+    due.is("nobody: LIGHT", x.change(2), 0);
     due.is("nobody: WHOLE", x.ring(0), 0);
     due.is("nobody: most", x.ring(1), -1);
     due.is("nobody: free", x.ring(2), 2047);
@@ -531,6 +568,9 @@ public final class PromiseTest {
     y.set(2, 0, 0);
     // STOVE 0: 8 is 2 + 2; 7 is 3 + 1; 6 is 4 + 0; all else is more
     due.is("WORST: the first of 4", y.ring(3), 6);
+    RoundTheModel z = new RoundTheModel();
+    z.painter(0, 0, 2);
+    due.is("WORST of one: 10, by 0 + 0", z.ring(3), 10);
     due.is("ring(-1)", y.ring(-1), NOPE);
     due.is("ring(4)", y.ring(4), NOPE);
     due.is("nothing moved", y.told(0, 5), 9);
@@ -541,6 +581,10 @@ public final class PromiseTest {
     RoundTheModel x = new RoundTheModel();
     due.is("nobody", x.mean(1, 0, 0), NO);
     x.painter(0, 0, 0);
+    due.is("10 by 1", x.mean(1, 0, 0), 10);
+    // the model turns 10: SIDE 1, 9 + 0; all move 9: SIDE 9, 1 + 1
+    due.is("19 by 1", x.mean(2, 1000, 0), 19);
+    due.is("12 by 1", x.mean(2, 9, 0), 12);
     x.painter(5, 0, 5);
     x.painter(5, 0, 3);
     due.is("12 by 3, above", x.mean(1, 0, 0), 4);
@@ -697,6 +741,7 @@ public final class PromiseTest {
     due.is("EASELS", x.tells(0, 0, 1, 3), 0b1111);
     due.is("FACES", x.tells(0, 0, 1, 4), 1);
     due.is("LAMPS", x.tells(0, 0, 1, 5), 2047);
+    due.is("tells by a turn of 10: 10, 7 + 2, 6 + 2", x.tells(0, 0, 1000, 0), 1);
     // STOVE AWAY 3 2 1, as it is from 5 alone
     due.is("STOVES", x.tells(0, 0, 1, 6), 1 << 5);
     due.is("TEXTS", x.tells(0, 0, 1, 7), 1);
@@ -741,6 +786,15 @@ public final class PromiseTest {
     y.sheet(0, 2, 1);
     y.cell(0, 0, 65531);
     due.is("65531 is an int", y.tells(0, 0, 0, 0), 0);
+    y = ruled("views lamp;warms 0;minds 0;");
+    y.painter(0, 0, 4);
+    y.sheet(0, 2, 2);
+    y.cell(0, 0, 3);
+    y.cell(0, 1, 4);
+    // 3 away, then one EASEL on 4 away
+    due.is("LAMPS", y.tells(0, 0, 1, 5), 1 << 1);
+    due.is("EASELS", y.tells(0, 0, 1, 3), 1 << 3);
+    due.is("TEXTS", y.tells(0, 0, 1, 7), 0);
     RoundTheModel z = new RoundTheModel();
     z.painter(1, 0, 1);
     z.painter(3, 4, 6);
@@ -766,6 +820,15 @@ public final class PromiseTest {
     x.sheet(3, 2, 4);
     for (int i = 0; i < 4; i++) x.cell(3, i, want[i]);
     due.is("as by hand", x.tells(3, 0, 2, 0), -1);
+    x.film(1, 0, 1010, 3);
+    // both by 10: SIDE 9 all the time; 9: 1 + 1; 8: 1 + 2; 7: 1 + 3
+    want = new int[] {2, 3, 4};
+    x.sheet(3, 2, 3);
+    for (int i = 0; i < 3; i++) x.cell(3, i, want[i]);
+    due.is("by 10 and 10", x.tells(3, 0, 1010, 0), -1);
+    x.sheet(2, 1, 4);
+    x.copy(1, 0, 2, 0, 3);
+    due.is("by 10 and 10, filmed", x.tells(2, 0, 1010, 0), 3);
     due.is("nothing moved", x.told(0, 5), 9);
     due.is("nothing moved", x.count(1), 0);
     due.is("not PLEASED", x.told(0, 8), 0);
@@ -793,6 +856,8 @@ public final class PromiseTest {
     due.is("drawn of none", x.drawn(0, 0), 0);
     due.is("drawn of 1", x.drawn(0, 1), 3);
     due.is("drawn of 2", x.drawn(0, 2), 3 + 5);
+    // then z is 3554416254, >>> 9 is 6942219, the turn 9: FACE 4, SIDE 7
+    due.is("drawn of 3", x.drawn(0, 3), 3 + 5 + 3);
     // SEED 1: z is 1103527590, >>> 9 is 2155327, % 11 is 9: FACE 2, SIDE 9
     due.is("drawn of 2, SEED 1", x.drawn(1, 2), 3 + 1);
     // SEED -1: z is -1103502900 or 3191464396, >>> 9 is 6233328, % 11 is 2: FACE 6, SIDE 5
@@ -846,7 +911,12 @@ public final class PromiseTest {
     x.painter(1, 5, 1);
     due.is("back to nobody", x.back(), 0);
     due.is("nobody", x.count(0), 0);
+    x.painter(0, 0, 0);
+    x.pose(1);
+    due.is("back to nobody", x.back(), 0);
     due.is("the EASEL is free", x.painter(3, 7, 6), 0);
+    due.is("who comes anew has HAD nothing", x.told(0, 7), 0);
+    due.is("who comes anew is not PLEASED yet", x.told(0, 8), 0);
     Due.read(x, "views 50;warms 0;minds 0;");
     x.set(0, 0, 3);
     x.set(1, 0, 2);
@@ -871,7 +941,6 @@ public final class PromiseTest {
     }
     x.feed(118);
     x.sheet(0, 0, 3);
-    Due.read(new RoundTheModel(), "views 1;warms 1;minds 1;");
     x.back();
     due.is("THE TAPE is not kept", x.count(4), 1);
     due.is("TEXTS stay", x.count(3), 2);
@@ -882,9 +951,6 @@ public final class PromiseTest {
     x.pose(0);
     due.is("back to the new one", x.back(), 2);
     due.is("POSE", x.count(1), 46);
-    x.set(5, 1, 10);
-    due.is("who comes anew has HAD nothing", x.painter(1, 1, 0), 2);
-    due.is("HAD", x.told(2, 7), 0);
   }
 
   // Promise 22
