@@ -348,6 +348,9 @@ public final class PromiseTest {
   private static void faults() {
     fault("", 0);
     fault("   ", 3);
+    fault(" ".repeat(160), 160);
+    fault("a".repeat(160), 0);
+    fault("views 1" + "\n".repeat(153), 160);
     fault("view 1;", 0);
     fault(" warms 1;", 1);
     fault("views;", 5);
