@@ -334,10 +334,10 @@ public final class PromiseTest {
     RoundTheModel x = new RoundTheModel();
     x.painter(0, 0, 0);
     for (int i = 1; i < 6; i++)
-      due.is("a long text", Due.read(x, "views " + "1+".repeat(39) + i + ";warms " + "1+".repeat(20) + i + ";minds " + i + ";"), i);
+      due.is("a long text", Due.read(x, "views " + "1+".repeat(20) + i + ";warms " + "1+".repeat(10) + i + ";minds " + i + ";"), i);
     for (int i = 5; i > 0; i--) {
       x.force(i);
-      seen(x, 0, 39 + i, 20 + i, i);
+      seen(x, 0, 20 + i, 10 + i, i);
     }
   }
 
